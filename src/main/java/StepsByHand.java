@@ -353,7 +353,7 @@ public final class StepsByHand {
             case 2: return reel.spanCount;
             case 3: return takes.counts[0];
             case 4: return takes.counts[1];
-            case 5: return newReel.count;
+            case 5: return newReel.pieceCount;
             case 6: return lists.counts[0];
             case 7: return lists.counts[1];
             case 8: return tape.length;
@@ -826,7 +826,7 @@ public final class StepsByHand {
         }
 
         /** The first way found is THE PLAN, as passes and walkers are tried from the least on. */
-        boolean settle(int i) {
+        private boolean settle(int i) {
             if (i >= size) return true;
             for (int pass = 0; pass < passCount; pass++) {
                 boolean wasEmpty = walkerTakes[pass * MOST_WALKERS] == -1;
@@ -837,7 +837,7 @@ public final class StepsByHand {
             return false;
         }
 
-        boolean settleInPass(int i, int pass) {
+        private boolean settleInPass(int i, int pass) {
             int passBefore = passTakes[pass];
             for (int walker = 0; walker < walkers; walker++) {
                 int slot = pass * MOST_WALKERS + walker;
@@ -1061,35 +1061,35 @@ public final class StepsByHand {
 
         final int[] begins = new int[MOST_PIECES];
         final int[] lengths = new int[MOST_PIECES];
-        int count = 0;
+        int pieceCount = 0;
 
         boolean isFull() {
-            return count >= MOST_PIECES;
+            return pieceCount >= MOST_PIECES;
         }
 
         int append(int f, int n) {
             if (isFull()) return FULL;
-            begins[count] = f;
-            lengths[count] = n;
-            count++;
-            return count;
+            begins[pieceCount] = f;
+            lengths[pieceCount] = n;
+            pieceCount++;
+            return pieceCount;
         }
 
         int clear() {
-            int had = count;
-            count = 0;
+            int had = pieceCount;
+            pieceCount = 0;
             return had;
         }
 
         int frames() {
             int sum = 0;
-            for (int p = 0; p < count; p++) sum += lengths[p];
+            for (int p = 0; p < pieceCount; p++) sum += lengths[p];
             return sum;
         }
 
         int placeOf(int begin, int end) {
             int ahead = 0;
-            for (int p = 0; p < count; p++) {
+            for (int p = 0; p < pieceCount; p++) {
                 if (begins[p] <= begin && end <= begins[p] + lengths[p]) return ahead + begin - begins[p];
                 ahead += lengths[p];
             }
@@ -1098,7 +1098,7 @@ public final class StepsByHand {
 
         int fateOf(int begin, int end) {
             if (placeOf(begin, end) != NONE) return MOVES;
-            for (int p = 0; p < count; p++) {
+            for (int p = 0; p < pieceCount; p++) {
                 if (begins[p] < end && begin < begins[p] + lengths[p]) return AGAIN;
             }
             return GONE;
