@@ -338,7 +338,6 @@ public final class StepsByHand {
         }
         readFault = found;
         reel.cueCount += came;
-        if (came > 0) planner.forget();
         return came;
     }
 

@@ -34,6 +34,7 @@ public final class HitsTest {
         CHECK.due("count(3) then", x.count(3), 0);
         CHECK.due("count(4) then", x.count(4), 0);
         CHECK.due("the last frame", x.hit(0, 499), 1);
+        CHECK.due("the same frame as the only one", x.hit(0, 499), -1);
         CHECK.due("from the first frame anew", x.hit(1, 0), 1);
     }
 

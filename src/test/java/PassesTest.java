@@ -28,6 +28,7 @@ public final class PassesTest {
         CHECK.due("beside its last frame alone", x.beside(0), 16);
         CHECK.due("beside others", x.beside(1), 12);
         CHECK.due("beside on another tray", x.beside(2), 10);
+        CHECK.due("beside the first", x.beside(4), 1);
         CHECK.due("beside(5)", x.beside(5), -1);
         CHECK.due("beside(-1)", x.beside(-1), -1);
         StepsByHand alone = Checks.told("prop 1;cue 0 10 0 1;cue 10 1 0 1;");

@@ -73,6 +73,11 @@ public final class SheetsTest {
         x.sheet(2, 2, 2);
         x.sheet(2, 2, 8);
         CHECK.due("cells of before do not come back", x.read(2, 2, 0, 1), -20);
+        x.lay(2, 0, 5);
+        x.sheet(2, 2, 4);
+        layCue(x, 2, 1, 1, 0, 1);
+        CHECK.due("the first cell is 0, too", x.read(2, 2, 0, 1), 1);
+        CHECK.due("so the cue begins there", x.cue(3, 0), 0);
     }
 
     private static void cuesAreRead() {

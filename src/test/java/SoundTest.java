@@ -82,6 +82,9 @@ public final class SoundTest {
         CHECK.due("lower none", x.lower(0), 0);
         CHECK.due("lower, set", x.lower(8), -1);
         CHECK.due("lower, set -1", x.lower(-1), -1);
+        StepsByHand first = Checks.told("prop 0;most 1;cue 0 1 0 2;");
+        int[] due = {1, 0, 2, 0};
+        for (int what = 0; what < 4; what++) CHECK.due("in the first frame alone, " + what, first.clips(1, what), due[what]);
         StepsByHand all = Checks.told("prop 0;most 1;" + "cue 1 1 0 9;".repeat(16));
         CHECK.due("16 of them", all.clips(65535, 2), 144);
         CHECK.due("lower 16 of them", all.lower(65535), 9);
