@@ -144,6 +144,7 @@ public final class FaultEdgesTest {
             fails(name.substring(1) + " 1;", 2, 0);
             fails(name + "s 1;", 2, 0);
             fails("a" + name + " 1;", 2, 0);
+            fails("x" + name.substring(1) + " 1;", 2, 0);
             fails(name.substring(0, name.length() - 1) + "a 1;", 2, 0);
             fails("most 1; " + name + "a 1;", 2, 8);
         }

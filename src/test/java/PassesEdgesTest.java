@@ -230,6 +230,14 @@ public final class PassesEdgesTest {
         StepsByHand row = Checks.told("prop 0;walkers 1;" + "cue 0 1 0 1;cue 1 1 0 1;cue 2 1 0 1;cue 3 1 0 1;cue 4 1 0 1;cue 5 1 0 1;cue 6 1 0 1;cue 7 1 0 1;cue 8 1 0 1;");
         EDGE.due("9 one behind another", row.does(511, 0, 0), 511);
         EDGE.due("PASSES", row.passes(511, 0), 1);
+        StringBuilder text = new StringBuilder("walkers 3;prop 0;prop 1;prop 2;");
+        for (int c = 0; c < 9; c++) text.append("cue 0 1 ").append(c % 3).append(" 1;");
+        StepsByHand nine = Checks.told(text.toString());
+        for (int pass = 0; pass < 3; pass++) {
+            for (int walker = 0; walker < 3; walker++) {
+                EDGE.due("9 at once, does(511, " + pass + ", " + walker + ")", nine.does(511, pass, walker), 1 << (3 * pass + walker));
+            }
+        }
     }
 
     private static void doesRefused() {
@@ -269,5 +277,10 @@ public final class PassesEdgesTest {
         EDGE.due("plan(7, 1, 0) still", x.plan(7, 1, 0), 0);
         EDGE.due("text", Checks.tell(x, "prop 0;cue 0 5 0 1;cue 0 5 0 1;cue 0 5 0 1;"), 4);
         EDGE.due("plan(7, 2, 0) of the new text", x.plan(7, 2, 0), 2);
+        EDGE.words(12, "PASSES for a set, whatever set was asked for ahead");
+        StepsByHand y = Checks.told("prop 0;walkers 1;" + "cue 5 5 0 1;".repeat(9) + "cue 10 5 0 1;");
+        int[] sets = {511, 1, 3, 1 << 8 | 1 << 9, 255, 0, 511, 1 << 9};
+        int[] passes = {9, 1, 2, 1, 8, 0, 9, 1};
+        for (int i = 0; i < sets.length; i++) EDGE.due("passes(" + sets[i] + ", 0)", y.passes(sets[i], 0), passes[i]);
     }
 }

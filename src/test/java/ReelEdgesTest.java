@@ -176,6 +176,10 @@ public final class ReelEdgesTest {
     private static void entriesAtTheEdges() {
         EDGE.words(34, "rising FRAMES (or the same), a PROP's number (0 to 7)");
         for (int list = 0; list < 2; list++) {
+            StepsByHand one = new StepsByHand();
+            EDGE.due("entry(" + list + ", 5, 0)", one.entry(list, 5, 0), 1);
+            EDGE.due("ahead of the only one: entry(" + list + ", 4, 0)", one.entry(list, 4, 0), BAD);
+            EDGE.due("ahead of that of the other LIST", one.entry(1 - list, 4, 0), 1);
             StepsByHand x = new StepsByHand();
             EDGE.due("entry(" + list + ", 0, 0)", x.entry(list, 0, 0), 1);
             EDGE.due("the same FRAME: entry(" + list + ", 0, 7)", x.entry(list, 0, 7), 2);
@@ -274,6 +278,26 @@ public final class ReelEdgesTest {
         EDGE.due("12 of 12, alone", full.joined(0, 1) + full.joined(0, 2), 0);
         for (int i = 0; i < 12; i++) EDGE.due("12 of 12, joined(0, " + (10 + i) + ")", full.joined(0, 10 + i), i);
         EDGE.due("12 of 12, none of them far away", full.joined(99, 0), 12);
+        unlikeCounts();
+    }
+
+    private static void unlikeCounts() {
+        for (int zero = 0; zero <= 12; zero++) {
+            for (int one = 0; one <= 12; one++) {
+                StepsByHand x = Room.full();
+                // What was in the lists before they were torn is no entry any more.
+                x.tear();
+                for (int i = 0; i < zero; i++) x.entry(0, i, 5);
+                for (int i = 0; i < one; i++) x.entry(1, 20 + i, 5);
+                String of = " of " + zero + " and " + one;
+                int pairs = Math.min(zero, one);
+                EDGE.due("joined(99, 0)" + of, x.joined(99, 0), pairs);
+                EDGE.due("joined(99, 1)" + of, x.joined(99, 1), zero - pairs);
+                EDGE.due("joined(99, 2)" + of, x.joined(99, 2), one - pairs);
+                for (int i = 0; i < zero; i++) EDGE.due("joined(99, " + (10 + i) + ")" + of, x.joined(99, 10 + i), i < one ? i : NONE);
+                EDGE.due("joined(0, 0)" + of, x.joined(0, 0), 0);
+            }
+        }
     }
 
     private static void joinedInOrder() {

@@ -207,6 +207,9 @@ public final class SoundEdgesTest {
         EDGE.due("to its end: how many", x.clips(1, 0), 10);
         EDGE.due("with a tail: how many", x.clips(2, 0), 20);
         EDGE.due("from the first FRAME: the first", x.clips(4, 1), 0);
+        EDGE.due("in the first FRAME: the greatest", x.clips(4, 2), 9);
+        EDGE.due("in the first FRAME: where", x.clips(4, 3), 0);
+        EDGE.due("to the last FRAME: where", Checks.told("prop 0;cue 499 1 0 2;").clips(1, 3), 499);
         EDGE.due("all: where", x.clips(7, 3), 490);
         EDGE.due("all: the greatest", x.clips(7, 2), 17);
     }

@@ -5,6 +5,7 @@ public final class TapeEdgesTest {
     private static final long BLANKS = 0x2020202020202020L;
 
     public static void main(String[] args) {
+        constants();
         nothingAtFirst();
         nothingToAskAtFirst();
         objectsShareNothing();
@@ -23,6 +24,14 @@ public final class TapeEdgesTest {
         EDGE.words(4, "THE TAPE (empty then)");
         EDGE.due("text() of nothing", new StepsByHand().text(), 0);
         EDGE.finish(1, 9);
+    }
+
+    private static void constants() {
+        EDGE.words(1, "Answers: BAD -1, STATE -2, FULL -3, NONE -4");
+        EDGE.due("BAD", StepsByHand.BAD, -1);
+        EDGE.due("STATE", StepsByHand.STATE, -2);
+        EDGE.due("FULL", StepsByHand.FULL, -3);
+        EDGE.due("NONE", StepsByHand.NONE, -4);
     }
 
     private static void nothingAtFirst() {
