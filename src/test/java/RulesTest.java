@@ -5,7 +5,11 @@ import java.lang.reflect.Method;
 import java.lang.reflect.Modifier;
 import java.nio.file.Files;
 import java.nio.file.Path;
+import java.util.ArrayList;
+import java.util.List;
+import java.util.Map;
 import java.util.Set;
+import java.util.TreeMap;
 import java.util.TreeSet;
 import java.util.regex.Matcher;
 import java.util.regex.Pattern;
@@ -24,6 +28,9 @@ public final class RulesTest {
         String code = withoutCommentsAndTexts(Files.readString(Path.of("src/main/java/StepsByHand.java")));
         forbiddenWords(code);
         methodsStayShort(code);
+        libraryThatIsListed(code);
+        noCallMakesAnObject(code);
+        callsAtMostEightDeep(code);
         CHECK.finish();
     }
 
@@ -79,15 +86,63 @@ public final class RulesTest {
         }
     }
 
-    private static void methodsStayShort(String code) {
+    /** Heads and bodies of all methods, by where they begin. */
+    private static List<String> methodsOf(String code) {
+        List<String> methods = new ArrayList<>();
         Matcher m = Pattern.compile("(?m)^( {4}| {8})[a-z][^;={]*\\) \\{$").matcher(code);
-        int found = 0;
-        while (m.find()) {
-            String end = "\n" + m.group(1) + "}";
-            int lines = code.substring(m.start(), code.indexOf(end, m.start())).split("\n").length;
-            CHECK.isTrue("short enough: " + m.group().trim(), lines <= 60);
-            found++;
+        while (m.find()) methods.add(code.substring(m.start(), code.indexOf("\n" + m.group(1) + "}", m.start())));
+        CHECK.isTrue("methods are found", methods.size() > 100);
+        return methods;
+    }
+
+    private static void methodsStayShort(String code) {
+        for (String method : methodsOf(code)) {
+            String[] lines = method.split("\n");
+            CHECK.isTrue("short enough: " + lines[0].trim(), lines.length <= 60);
         }
-        CHECK.isTrue("methods are found", found > 100);
+    }
+
+    private static void libraryThatIsListed(String code) {
+        Set<String> allowed = new TreeSet<>(Set.of("StepsByHand", "String", "Math", "Integer"));
+        for (Class<?> inside : StepsByHand.class.getDeclaredClasses()) allowed.add(inside.getSimpleName());
+        Matcher type = Pattern.compile("\\b[A-Z]\\w*[a-z]\\w*").matcher(code);
+        while (type.find()) CHECK.isTrue(type.group() + " is one of " + allowed, allowed.contains(type.group()));
+        Set<String> functions = Set.of("Math.max", "Math.min", "Math.abs", "Integer.bitCount");
+        Matcher used = Pattern.compile("\\b(Math|Integer)\\s*\\.\\s*\\w+").matcher(code);
+        while (used.find()) CHECK.isTrue(used.group() + " is one of " + functions, functions.contains(used.group()));
+    }
+
+    /** All calls of a run share one room, so what is made is made with the object, once. */
+    private static void noCallMakesAnObject(String code) {
+        for (String method : methodsOf(code)) {
+            CHECK.isTrue("makes nothing: " + method.split("\n")[0].trim(), !Pattern.compile("\\bnew\\b|\\.clone\\b").matcher(method).find());
+        }
+    }
+
+    private static void callsAtMostEightDeep(String code) {
+        Map<String, Set<String>> calls = new TreeMap<>();
+        Pattern name = Pattern.compile("\\b(\\w+)\\(");
+        for (String method : methodsOf(code)) {
+            Matcher m = name.matcher(method);
+            if (!m.find()) continue;
+            // Methods of two classes that bear one name are taken together: that can but deepen the way.
+            Set<String> called = calls.computeIfAbsent(m.group(1), n -> new TreeSet<>());
+            while (m.find()) called.add(m.group(1));
+        }
+        for (String from : FACE.split(" ")) {
+            String call = from.substring(0, from.indexOf('('));
+            int deep = depth(call, calls, new ArrayList<>());
+            CHECK.isTrue(call + " goes " + deep + " deep", deep <= 8);
+        }
+    }
+
+    private static int depth(String from, Map<String, Set<String>> calls, List<String> open) {
+        // A method that is open already is recursion, which rule 8 bounds by itself.
+        if (!calls.containsKey(from) || open.contains(from)) return 0;
+        open.add(from);
+        int deepest = 0;
+        for (String called : calls.get(from)) deepest = Math.max(deepest, depth(called, calls, open));
+        open.remove(open.size() - 1);
+        return deepest + 1;
     }
 }
